@@ -1,5 +1,3 @@
-import java.util.Arrays;
-
 /**
  * A front end that forgives: rules make a grammar, a text is cut into tokens, the tree that needs
  * the fewest repairs is found, and the text is laid out anew within a width.
@@ -431,12 +429,10 @@ public final class KindParser {
         }
 
         void fill() {
-            Arrays.fill(prices, FAR);
-            Arrays.fill(choices, (byte) NONE);
             priceLeaves();
             for (int first = cut.size; first >= 0; first--) {
-                begin(first);
                 for (int end = first; end <= cut.size; end++) {
+                    forget(first, end);
                     joinInside(first, end);
                     settle(first, end);
                     choose(first, end);
@@ -456,27 +452,34 @@ public final class KindParser {
             }
         }
 
-        private void begin(int first) {
-            Arrays.fill(begun, FAR);
-            for (int rule = 0; rule < grammar.size; rule++) {
-                begun[begunRow(rule, 0) + first] = 0;
+        /** What an earlier text left here. */
+        private void forget(int first, int end) {
+            for (int kind = FIRST_KIND; kind <= SYMBOLS; kind++) {
+                prices[spot(kind, first, end)] = FAR;
+                choices[choiceSpot(kind, first, end)] = NONE;
             }
         }
 
         /** Prices what needs no symbol for the whole run of tokens, so never waits for this run. */
         private void joinInside(int first, int end) {
             for (int rule = 0; rule < grammar.size; rule++) {
-                for (int done = 2; done <= grammar.lengths[rule]; done++) {
-                    int before = begunRow(rule, done - 1);
-                    int symbol = grammar.symbolOf(rule, done - 1);
-                    long least = FAR;
-                    for (int middle = first + 1; middle < end; middle++) {
-                        long sum = begun[before + middle] + prices[spot(symbol, middle, end)];
-                        least = Math.min(least, sum);
-                    }
-                    begun[begunRow(rule, done) + end] = least;
+                int row = begunRow(rule, 0);
+                begun[row + end] = first == end ? 0 : FAR;
+                for (int at = 0; at < grammar.lengths[rule]; at++) {
+                    begun[row + EDGES + end] = leastInside(row, grammar.symbolOf(rule, at), first, end);
+                    row += EDGES;
                 }
             }
+        }
+
+        private long leastInside(int row, int symbol, int first, int end) {
+            long least = FAR;
+            int at = spot(symbol, first, end);
+            for (int middle = first + 1; middle < end; middle++) {
+                at += EDGES;
+                least = Math.min(least, begun[row + middle] + prices[at]);
+            }
+            return least;
         }
 
         /**
@@ -501,8 +504,8 @@ public final class KindParser {
         /** Lets one symbol have all the tokens, or the last one none: the price of the rule. */
         private long extend(int rule, int first, int end) {
             int row = begunRow(rule, 0);
-            for (int done = 1; done <= grammar.lengths[rule]; done++) {
-                int symbol = grammar.symbolOf(rule, done - 1);
+            for (int at = 0; at < grammar.lengths[rule]; at++) {
+                int symbol = grammar.symbolOf(rule, at);
                 long lastEmpty = begun[row + end] + prices[spot(symbol, end, end)];
                 long lastAll = begun[row + first] + prices[spot(symbol, first, end)];
                 row += EDGES;
@@ -562,8 +565,9 @@ public final class KindParser {
         }
 
         private void trace(int rule, int first, int end) {
-            Arrays.fill(traced, FAR);
-            traced[first] = 0;
+            for (int edge = first; edge <= end; edge++) {
+                traced[edge] = edge == first ? 0 : FAR;
+            }
             for (int at = 0; at < grammar.lengths[rule]; at++) {
                 int symbol = grammar.symbolOf(rule, at);
                 int row = at * EDGES;
@@ -748,13 +752,12 @@ public final class KindParser {
             layEnd();
         }
 
-        /** Backwards, since a part's own parts come behind it. */
         private void measure() {
-            Arrays.fill(flats, 0);
-            for (int part = tree.size - 1; part >= 0; part--) {
-                if (tree.isLeaf(part)) {
-                    flats[part] = leafWidth(part);
-                }
+            for (int part = 0; part < tree.size; part++) {
+                flats[part] = tree.isLeaf(part) ? leafWidth(part) : 0;
+            }
+            // backwards, since a part's own parts come behind it
+            for (int part = tree.size - 1; part > 0; part--) {
                 int parent = tree.cell(part, Tree.PARENT);
                 if (parent != NONE) {
                     flats[parent] += flats[part] + (hasGap(part) ? flatGap(part) : 0);
