@@ -97,6 +97,10 @@ final class RepairTest {
         KindParser chain = grammar(9, 0, 9, 0xA, 10, 0xB, 11, 0xC, 12, 0xD, 13, 0xE, 14, 0x12);
         repair(chain, "ab", 0, 0, "1 9 -1 0 2 0 1; 2 10 0 0 2 0 1; 3 11 1 0 2 0 1; 4 12 2 0 2 0 1; "
                 + "5 13 3 0 2 0 1; 6 14 4 0 2 0 2; -1 1 5 0 1 0 0; -1 2 5 1 1 0 0");
+        // and what begins with such a chain must know of it
+        KindParser longer = grammar(9, 0x93, 9, 0xA, 10, 0xB, 11, 0xC, 12, 0xD, 13, 0xE, 14, 0x12);
+        repair(longer, "abc", 0, 0, "0 9 -1 0 3 0 2; 1 9 0 0 2 0 1; 2 10 1 0 2 0 1; 3 11 2 0 2 0 1; "
+                + "4 12 3 0 2 0 1; 5 13 4 0 2 0 1; 6 14 5 0 2 0 2; -1 1 6 0 1 0 0; -1 2 6 1 1 0 0; -1 3 0 2 1 0 0");
     }
 
     private static void notGrounded() {

@@ -110,6 +110,8 @@ final class TextTest {
     private static void cuts() {
         cut("", "0 0 0");
         cut(" \n \n", "0 0 0");
+        cut(" ".repeat(79) + "a", "1 1 0; 0 0 0");
+        cut("\n".repeat(79) + "?", "0 1 0; 0 0 0");
         cut("abcdefgh", "1 1 0; 2 1 0; 3 1 0; 4 1 0; 5 1 0; 6 1 0; 7 1 0; 8 1 0; 0 0 0");
         cut("i`", "0 1 0; 0 1 0; 0 0 0");
         cut("AH", "0 1 0; 0 1 0; 0 0 0");
