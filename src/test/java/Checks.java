@@ -9,10 +9,16 @@ final class Checks {
     static final Class<?> INDEX = IndexOutOfBoundsException.class;
     static final Class<?> UNSUPPORTED = UnsupportedOperationException.class;
 
+    private static String sentence = "";
     private static int wrong = 0;
     private static int made = 0;
 
     private Checks() {
+    }
+
+    /** The sentence of the document that the checks from here on would find broken. */
+    static void sentence(String quoted) {
+        sentence = quoted;
     }
 
     static void due(String call, long got, long want) {
@@ -28,13 +34,22 @@ final class Checks {
         if (!got.equals(want)) {
             wrong++;
             if (wrong <= 50) {
-                System.out.println(call + " answered " + shown(got) + ", due is " + shown(want));
+                System.out.println("\"" + sentence + "\": " + call + " answered " + shown(got) + ", due is " + shown(want));
             }
         }
     }
 
-    static void refused(String call, Class<?> want, Call made) {
-        same(call, outcome(made), "throws." + want.getSimpleName());
+    static void refused(String call, Class<?> want, Call tried) {
+        same(call, outcome(tried), "throws." + want.getSimpleName());
+    }
+
+    /** A parser whose rules, from 0 on, are pairs of a head and symbols; all hints are 0, none is IN. */
+    static KindParser grammar(int... pairs) {
+        KindParser p = new KindParser();
+        for (int at = 0; at + 1 < pairs.length; at += 2) {
+            p.rule(pairs[at], pairs[at + 1], 0, false);
+        }
+        return p;
     }
 
     /** What a call answers, or the exception that it throws, as a text. */
@@ -90,14 +105,13 @@ final class Checks {
 
     static String page(KindParser p) {
         StringBuilder page = new StringBuilder();
-        for (int i = 0; !outcome(at(p, i)).startsWith("throws"); i++) {
-            page.append((char) p.character(i));
+        String next = outcome(() -> p.character(0));
+        while (!next.startsWith("throws")) {
+            page.append((char) Integer.parseInt(next));
+            int i = page.length();
+            next = outcome(() -> p.character(i));
         }
         return page.toString();
-    }
-
-    private static Call at(KindParser p, int i) {
-        return () -> p.character(i);
     }
 
     /** One part as "rule symbol parent first tokens cost state". */
@@ -143,6 +157,18 @@ final class Checks {
         }
         all.append(" parts ").append(p.parts()).append(" [").append(tree(p)).append("] page ");
         return all.append(page(p)).toString();
+    }
+
+    /** What an object still answers when it is used on, so that its text and rules are seen, too. */
+    static String future(KindParser p) {
+        StringBuilder all = new StringBuilder(state(p));
+        all.append(" / print ").append(outcome(() -> p.print(4))).append(' ').append(page(p));
+        all.append(" / repair ").append(outcome(p::repair)).append(' ').append(state(p));
+        all.append(" / print ").append(outcome(() -> p.print(4))).append(' ').append(page(p));
+        all.append(" / write ").append(outcome(() -> p.write('b', 1)));
+        all.append(" / erase ").append(outcome(p::erase));
+        all.append(" / rule ").append(outcome(() -> p.rule(9, 0, 0, false)));
+        return all.append(" / repair ").append(outcome(p::repair)).append(' ').append(state(p)).toString();
     }
 
     static void end() {

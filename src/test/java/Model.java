@@ -106,6 +106,14 @@ final class Model {
         return had;
     }
 
+    int length() {
+        return text.length();
+    }
+
+    int printed() {
+        return page.length();
+    }
+
     int repair() {
         if (!grounded(9)) {
             throw new UnsupportedOperationException();
