@@ -28,7 +28,9 @@ final class FaceTest {
 
     public static void main(String[] args) {
         Class<?> c = KindParser.class;
+        Checks.sentence("The constants: NONE = -1");
         Checks.due("NONE", KindParser.NONE, -1);
+        Checks.sentence("The public face");
         Checks.due("the class is public", Modifier.isPublic(c.getModifiers()), true);
         Checks.due("the class is final", Modifier.isFinal(c.getModifiers()), true);
         Checks.same("the face", seen(c).toString(), new TreeSet<>(Arrays.asList(FACE)).toString());

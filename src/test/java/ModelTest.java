@@ -26,6 +26,7 @@ final class ModelTest {
     }
 
     public static void main(String[] args) {
+        Checks.sentence("the whole document, as Model reads it");
         int runs = args.length > 0 ? Integer.parseInt(args[0]) : 6000;
         for (int run = 0; run < runs; run++) {
             new ModelTest(run).play();

@@ -19,6 +19,8 @@ final class PrintTest {
         lineEndInAComment();
         columnOfAPart();
         longestPrint();
+        mostParts();
+        ofThisTreeAlone();
         howManyCharacters();
         widthIsNotAllowed();
         noTree();
@@ -370,6 +372,35 @@ final class PrintTest {
         KindParser flat = deepest();
         print(flat, 95, "a1234 ".repeat(6) + "b5678 ".repeat(9) + "b5678");
         Checks.due("print(94)", flat.print(94), 97);
+    }
+
+    private static void mostParts() {
+        Checks.sentence("those of its parts that are not empty .. the tree has more than 150 parts");
+        KindParser p = Checks.grammar(9, 0xA9, 10, 0xB, 11, 0xC, 12, 0xD, 13, 0x1EEE, 9, 0xEEEEE, 14, 0);
+        Checks.due("repair", Checks.repaired(p, "a".repeat(16)), 0);
+        Checks.due("parts", p.parts(), 150);
+        print(p, 1, "a".repeat(16));
+        print(p, 100, "a".repeat(16));
+        KindParser empty = Checks.grammar(14, 0x11111, 13, 0xEEEEE, 11, 0xEEEE, 9, 0xDDDDB);
+        empty.repair();
+        Checks.due("parts", empty.parts(), 150);
+        print(empty, 1, "");
+    }
+
+    private static void ofThisTreeAlone() {
+        Checks.sentence("Lays the tree out");
+        KindParser p = new KindParser();
+        p.rule(9, 0x19, 2, true);
+        p.rule(9, 0, 0, false);
+        Checks.repaired(p, "a1a2a3a4{x}");
+        print(p, 1, "a1\n  a2\n    a3\n      a4\n{x}");
+        // of a tree that had more parts, tokens and comments nothing is left
+        Checks.repaired(p, "a5");
+        print(p, 1, "a5");
+        Checks.repaired(p, "a6 a7{y}{z}");
+        print(p, 1, "a6\n  a7\n{y} {z}");
+        Checks.repaired(p, "");
+        print(p, 1, "");
     }
 
     private static void howManyCharacters() {

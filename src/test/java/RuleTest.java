@@ -106,6 +106,22 @@ final class RuleTest {
         Checks.due("count(0)", p.count(0), 20);
         Checks.due("grounded(9)", p.grounded(9), false);
         Checks.due("grounded(14)", p.grounded(14), false);
+        KindParser q = new KindParser();
+        for (int rule = 0; rule < 19; rule++) {
+            q.rule(9 + rule % 5, 0xE9ABC, 0xAA, true);
+        }
+        q.rule(14, 0x12345, 0, false);
+        Checks.same("the last one has five symbols", ground(q), "-----g");
+        KindParser r = new KindParser();
+        for (int rule = 0; rule < 19; rule++) {
+            r.rule(9 + rule % 6, 0x99999, 0xAA, true);
+        }
+        Checks.due("the last one has five symbols", r.rule(9, 0x12345, 0, false), 19);
+        Checks.due("and is of use", Checks.repaired(r, "abcde"), 0);
+        Checks.due("in the tree", r.part(0, 0), 19);
+        // five nodes: three are good, four leaves of one and five of another are missing
+        Checks.due("and with 16 tokens", Checks.repaired(r, "abcdeabcdeabcdee"), 9);
+        Checks.due("in the last node", r.part(25, 0), 19);
     }
 
     private static void rowLengths() {
@@ -320,6 +336,9 @@ final class RuleTest {
             p.rule(13, 0, 0, false);
             Checks.due("now it is", p.grounded(9), true);
         }
+        // what stands in the next rule is no matter
+        KindParser next = Checks.grammar(9, 0xBBBBB, 10, 0xAAAAA, 11, 0x1);
+        Checks.same("five symbols, and a rule behind it that is not", ground(next), "g-g---");
     }
 
     private static void groundedInSteps() {
