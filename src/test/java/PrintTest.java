@@ -161,6 +161,7 @@ final class PrintTest {
         print(one(0x12, 2, true, "a b c{y}"), 1, "a\n  b\nc {y}");
         print(one(0x12, 2, true, "a b c d e f g"), 3, "a b\nc d e f g");
         print(one(0x12, 1, true, "a b 1"), 9, "a b\n1");
+        print(one(0x12, 1, true, "ab" + "{}{}{}{}c".repeat(8)), 9, "a b\n" + "{} {} {} {} c ".repeat(8).trim());
     }
 
     private static void theEndAlone() {
